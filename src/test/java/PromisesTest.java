@@ -706,6 +706,12 @@ public final class PromisesTest {
         y.play(1, 0);
         due("the others as they do: hand 1 must leave its song", y.hands(1, 2, 1), 2);
         due("how many", y.hands(1, 2, 0), 1);
+        // Hands 0 and 1 would do together (bits 3), but hand 2 does alone (bits 4): 5 and 3, less 7.
+        JingleLaws z = told("f20;h1;h1;h10;h1;h1;s5,7,1;");
+        due("fewer ahead of least", z.hands(0, 1, 1), 4);
+        z.give(0, 0);
+        due("all but one weak one", z.hands(0, 1, 0), 4);
+        due("the least of these", z.hands(0, 1, 1), 15);
     }
 
     private static void rotas() {
@@ -742,6 +748,26 @@ public final class PromisesTest {
         due("of two RULES the first", w.rota(1, 0), 0);
         w.give(0, 10);
         due("LOUD at most", w.rota(1, 0), 1);
+        w.give(0, 0);
+        w.give(1, 0);
+        due("a worse night behind a better one", w.rota(1, -1), 1);
+        due("a worse night behind a better one", w.rota(1, 0), 0);
+        JingleLaws lost = told("f20;h0;l5,5,0;");
+        due("the lost one falls", lost.rota(1, -1), 0);
+        JingleLaws two = told("f60;h1;h1;h1;s2,5,0;s5,5,0;");
+        due("two for the one, one for the other", two.rota(1, -1), 2);
+        due("hand 0", two.rota(1, 0), 0);
+        due("hand 1", two.rota(1, 1), 0);
+        due("hand 2", two.rota(1, 2), 1);
+        JingleLaws five = told("f60;h20;h20;h20;h20;h20;s9,9,0;s9,9,0;s9,9,0;s9,9,0;s9,9,0;");
+        due("one for each", five.rota(1, -1), 5);
+        for (int h = 0; h < 5; h++) {
+            due("hand " + h, five.rota(1, h), h);
+        }
+        five.give(2, 60);
+        due("four are enough, the first two keep one together", five.rota(1, 1), 0);
+        // Three hands lose nothing of a 9, two hands have 21 left of the 60; nobody is left for a third.
+        due("n 12", five.rota(12, -1), 2);
     }
 
     private static void covers() {
@@ -768,6 +794,9 @@ public final class PromisesTest {
         due("one more HOLDS", x.cover(15, 1), 8);
         due("two", x.cover(31, 0), 2);
         due("the least of several", x.cover(31, 1), 20);
+        JingleLaws y = told("f20;h1;s5,1,1;s5,1,2;s5,1,4;s5,1,8;s5,1,48;");
+        due("all", y.cover(63, 0), 5);
+        due("all", y.cover(63, 1), 31);
     }
 
     private static void falls() {
@@ -816,6 +845,13 @@ public final class PromisesTest {
         z.play(1, 0);
         due("hand 0 is spent", z.byTurns(1, 0, 3), 1);
         due("hand 0 leaves the song", z.byTurns(1, 1, 3), 8);
+        // Five HANDS, 2 each: two even ones begin, two odd ones leave.
+        JingleLaws five = told("f60;h5;h5;h5;h5;h5;s30,1,1;");
+        five.play(1, 0);
+        five.play(3, 0);
+        due("two and two", five.byTurns(0, 4, 1), 33);
+        due("two and one", five.byTurns(0, 3, 1), 35);
+        due("m 20", five.byTurns(0, 0, 20), five.ahead(0, 20));
     }
 
     private static void shares() {
@@ -844,6 +880,11 @@ public final class PromisesTest {
         x.soup(1, 20);
         x.soup(2, 20);
         due("none lacks any", x.share(0, 999), 0);
+        JingleLaws y = told("f20;h20;h19;h19;s5,4,1;");
+        due("one that lacks 1", y.share(1, 5), 3);
+        due("another", y.share(2, 5), 2);
+        y.soup(1, 1);
+        due("1 is lacking in all", y.share(2, 5), 5);
     }
 
     private static void whos() {
@@ -959,6 +1000,11 @@ public final class PromisesTest {
         for (int h = 0; h < 5; h++) {
             y.play(h, 0);
         }
+        // Asleep it has 0, then 2, 1: 6, 4, 2.
+        JingleLaws z = told("f20;h20;s10,4,0;");
+        z.play(0, 0);
+        dueFraction(z, 3, 10, 1, 1);
+        dueFraction(z, 4, 10, 0, 1);
         // 9 is lost, LOUD is 10: any one awake is enough.
         due("above", y.sleep(0, 1, 7, 0), 10 * 10 * 10 * 10 * 10 - 7 * 7 * 7 * 7 * 7);
         due("below", y.sleep(0, 1, 7, 1), 100000);
@@ -1186,6 +1232,10 @@ public final class PromisesTest {
         due("bytes", x.count(7), 1);
         // What belonged to a greater CAMP does not count any more.
         x.camp();
+        Checks.feed(x, SONG).camp();
+        due("BEAT of the lesser", x.count(4), 5);
+        due("STRENGTH of the lesser", x.count(5), 13);
+        Checks.feed(x, "f60;h20;h20;h20;h20;h20;s60,9,63;s60,9,63;").camp();
         Checks.feed(x, SONG).camp();
         due("BEAT of the lesser", x.count(4), 5);
         due("STRENGTH of the lesser", x.count(5), 13);
