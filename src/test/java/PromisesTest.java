@@ -1040,6 +1040,9 @@ public final class PromisesTest {
         due("2: as they do", x.drawn(1, 2, 1), 3);
         due("nothing changes", x.hand(1, 1), 0);
         due("nothing changes", x.rule(1, 0), 0);
+        JingleLaws one = told("f20;h10;s5,4,1;");
+        due("3: the one hand plays the one rule", one.drawn(1, 3, 1), 4);
+        due("2: nothing", one.drawn(1, 2, 1), 1);
         dueDrawnByHand(60, 999999);
         dueDrawnByHand(37, 12345);
     }
