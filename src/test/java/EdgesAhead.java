@@ -144,7 +144,8 @@ final class EdgesAhead {
     }
 
     private void firstOfSeveral() {
-        checks.says(0, "FIRST: the RULE that HOLDS and does not first, of several the least; behind how many HOURS; NONE.");
+        checks.says(0, "FIRST: the RULE that HOLDS and does not first, of several the least; behind how "
+            + "many HOURS; NONE.");
         JingleLaws x = Checks.told("f60;h0;s0,1,1;s9,1,1;g8,4,1;w8,1,1;s4,1,1;");
         checks.due("three behind 4: the least, not the one that does not HOLD", x.first(0), 2);
         checks.due("behind", x.first(1), 4);

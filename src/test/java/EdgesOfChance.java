@@ -80,7 +80,8 @@ final class EdgesOfChance {
     }
 
     private void sleepNow() {
-        checks.says(0, "each HAND falls asleep (STRENGTH 0) now in p of 10 cases, apart: how likely a RULE HOLDS behind n HOURS (0 to 60)");
+        checks.says(0, "each HAND falls asleep (STRENGTH 0) now in p of 10 cases, apart: how likely a "
+            + "RULE HOLDS behind n HOURS (0 to 60)");
         JingleLaws x = Checks.told("f20;h20;s1,1,1;");
         x.play(0, 0);
         dueFraction("0 HOURS: it HOLDS now", x, 0, 10, 1, 1);
@@ -98,7 +99,8 @@ final class EdgesOfChance {
     }
 
     private void drawnRefused() {
-        checks.says(32, "NIGHTS by a SEED (1 to 999999): which (what = 0), BEAT (1). BAD; STATE: no CAMP (ahead of BAD).");
+        checks.says(32, "NIGHTS by a SEED (1 to 999999): which (what = 0), BEAT (1). BAD; STATE: no CAMP "
+            + "(ahead of BAD).");
         JingleLaws none = new JingleLaws();
         checks.all(STATE, "no CAMP", n -> none.drawn(n, 1, 0), LEAST, -1, 0, 60, 61, MOST);
         checks.all(STATE, "no CAMP", seed -> none.drawn(0, seed, 0), LEAST, 0, 1, 999999, 1000000, MOST);
@@ -157,7 +159,8 @@ final class EdgesOfChance {
     }
 
     private void drawnWhat() {
-        checks.says(0, "plays the RULE that is the rest of X by how many there are, if X by 3 leaves 0, none, if it leaves 1");
+        checks.says(0, "plays the RULE that is the rest of X by how many there are, if X by 3 leaves 0, "
+            + "none, if it leaves 1");
         // Small SEEDS: X is 16807 times it, which leaves by 2 and by 3 what the SEED leaves, by 5 twice that.
         JingleLaws x = Checks.told("f20;h10;h3;s5,4,1;w6,2,2;");
         checks.due("6: HAND 0 plays RULE 0", x.drawn(1, 6, 1), 4 + 2);

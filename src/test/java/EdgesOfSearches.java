@@ -114,7 +114,8 @@ final class EdgesOfSearches {
     }
 
     private void rotaMost() {
-        checks.says(0, "by which most RULES HOLD behind them, of several that by which most BEAT there is, all together");
+        checks.says(0, "by which most RULES HOLD behind them, of several that by which most BEAT there "
+            + "is, all together");
         // One HAND: the great one would gain as much, but just the whim needs it.
         dueRota("most RULES", Checks.told("f60;h20;g50,9,0;w3,2,0;"), 2, 2, 1);
         // Both HOLD either way; the song is at LOUD already, the other one gains 2.
@@ -127,6 +128,7 @@ final class EdgesOfSearches {
         checks.due("nothing changes", x.hand(0, 1), 0);
         // To play would take the STRENGTH by which HAND 1 keeps the lost one in HOUR 1.
         dueRota("the lost one", Checks.told("f20;h0;h1;s9,1,0;l5,5,0;"), 2, 2, 0, NONE);
+        dueRota("the lost one falls silent", Checks.told("f20;h0;l5,5,0;"), 1, 0, NONE);
         dueRota("no RULE can HOLD", Checks.told("f10;h1;h1;s0,9,0;w0,9,0;"), 1, 0, NONE, NONE);
     }
 
@@ -145,7 +147,8 @@ final class EdgesOfSearches {
     }
 
     private void coverRefused() {
-        checks.says(25, "COVER (things 0 to 63): how many (what = 0), which (1); NONE. BAD; STATE: no CAMP (ahead of BAD).");
+        checks.says(25, "COVER (things 0 to 63): how many (what = 0), which (1); NONE. BAD; STATE: no "
+            + "CAMP (ahead of BAD).");
         JingleLaws none = new JingleLaws();
         checks.all(STATE, "no CAMP", things -> none.cover(things, 0), LEAST, -1, 0, 63, 64, MOST);
         checks.all(STATE, "no CAMP", what -> none.cover(0, what), LEAST, -1, 0, 1, 2, MOST);
@@ -164,7 +167,8 @@ final class EdgesOfSearches {
     }
 
     private void coverFewest() {
-        checks.says(0, "the fewest RULES that HOLD, which BAR all of them: how many; which (bits), of several the least; NONE.");
+        checks.says(0, "the fewest RULES that HOLD, which BAR all of them: how many; which (bits), of "
+            + "several the least; NONE.");
         JingleLaws x = Checks.told("f20;h1;s1,1,1;s1,1,2;s1,1,3;s0,1,63;s1,1,7;");
         dueCover("nothing", x, 0, 0);
         dueCover("one", x, 1, 1);
@@ -273,7 +277,8 @@ final class EdgesOfSearches {
     }
 
     private void shares() {
-        checks.says(0, "(cut), what is over 1 each to the first ones that lack any: how many a HAND gets (0, if none lacks any)");
+        checks.says(0, "(cut), what is over 1 each to the first ones that lack any: how many a HAND "
+            + "gets (0, if none lacks any)");
         JingleLaws x = Checks.told("f60;h20;h19;h20;h19;h19;s30,1,1;");
         dueShares("one is over", x, 1, 0, 1, 0, 0, 0);
         dueShares("two are over", x, 2, 0, 1, 0, 1, 0);

@@ -19,13 +19,16 @@ final class EdgesOfStanding {
     }
 
     private void rules() {
-        checks.says(15, "3 HANDS by which it is PLAYED in this HOUR (bits), 4 the HAND that has it (NONE: another KIND). BAD.");
+        checks.says(15, "3 HANDS by which it is PLAYED in this HOUR (bits), 4 the HAND that has it "
+            + "(NONE: another KIND). BAD.");
         JingleLaws none = new JingleLaws();
         checks.all(BAD, "no CAMP", what -> none.rule(0, what), -1, 0, 4, 5);
         JingleLaws x = Checks.told(ALL_KINDS);
         checks.all(BAD, "RULE", r -> x.rule(r, 0), LEAST, NONE, -1, 5, MOST);
         checks.all(BAD, "what", what -> x.rule(0, what), LEAST, -1, 5, MOST);
-        int[][] due = {{10, 3, 5, 0, NONE}, {20, 4, 8, 0, NONE}, {6, 2, 3, 0, NONE}, {15, 5, 48, 1, 0}, {4, 2, 1, 1, 0}};
+        int[][] due = {
+            {10, 3, 5, 0, NONE}, {20, 4, 8, 0, NONE}, {6, 2, 3, 0, NONE}, {15, 5, 48, 1, 0}, {4, 2, 1, 1, 0},
+        };
         for (int r = 0; r < 5; r++) {
             for (int what = 0; what < 5; what++) {
                 checks.due("rule " + r + " " + what, x.rule(r, what), due[r][what]);

@@ -215,6 +215,8 @@ final class EdgesOfTexts {
                 dueOther(text, 12, other);
                 dueSigns(text, other);
             }
+            // Behind a whole CAMP just a rule can begin.
+            faulty(text + (char) other, "sgwlo".indexOf(other) < 0 ? 14 : 15, 1);
         }
     }
 
@@ -289,7 +291,8 @@ final class EdgesOfTexts {
     }
 
     private void standsInPlace() {
-        checks.says(0, "stands in place of the one before (none at first): HOUR 0, no HAND plays any; no ACT can be undone");
+        checks.says(0, "stands in place of the one before (none at first): HOUR 0, no HAND plays any; "
+            + "no ACT can be undone");
         JingleLaws x = Checks.told("f60;" + FIVE_HANDS + FIVE_RULES);
         for (int h = 0; h < 5; h++) {
             x.play(h, h);

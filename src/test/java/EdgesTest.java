@@ -1,6 +1,6 @@
 /**
- * Each sentence of the document that names a boundary: too small, too large, empty, full, a wrap-around, a refused call.
- * The words of each stand above its answers, which were worked out by hand.
+ * Each sentence of the document that names a boundary: too small, too large, empty, full, a wrap-around, a refused
+ * call. Its words stand above its answers, which were worked out by hand.
  */
 public final class EdgesTest {
     private EdgesTest() {

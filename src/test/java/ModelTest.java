@@ -1,20 +1,17 @@
 import java.lang.reflect.Method;
-import java.util.ArrayList;
-import java.util.Arrays;
 import java.util.List;
 import java.util.Random;
 
 /** Random runs of calls, on the class and on the plain model; the random source has a told seed. */
 public final class ModelTest {
-    private static final int RUNS = 260, CALLS = 400, DEAR_ROTAS = 90;
+    private static final int RUNS = 600, MOST_AT_ONCE = 130, DEAR_ROTAS = 90;
     private static final int[] EDGES = {-1, 0, 1, 2, 3, 4, 5, 6, 7, 8, 9, 10, 12, 13, 19, 20, 21, 24, 25, 30, 31, 40, 41,
         60, 61, 63, 64, 127, 128, 255, 256, 999, 1000, 65535, 999999, 1000000, -1000000, -1000001,
         Integer.MAX_VALUE, Integer.MIN_VALUE};
 
     private final Random random;
-    private final List<String> log = new ArrayList<>();
-    private JingleLaws real;
-    private PlainModel model;
+    private final List<Method> methods = Pair.methods();
+    private Pair pair;
     private int rotas;
     private int calls;
 
@@ -33,46 +30,25 @@ public final class ModelTest {
     }
 
     private void run() throws ReflectiveOperationException {
-        real = new JingleLaws();
-        model = new PlainModel();
-        log.clear();
+        pair = new Pair();
         if (random.nextInt(10) > 0) {
-            tell(text());
+            pair.tell(text());
         }
-        for (int i = 0; i < CALLS; i++) {
+        while (pair.hasRoomFor(MOST_AT_ONCE)) {
             int way = random.nextInt(100);
             if (way < 2) {
-                tell(random.nextInt(3) == 0 ? spoiled(text()) : text());
+                pair.tell(random.nextInt(3) == 0 ? spoiled(text()) : text());
             } else if (way < 8) {
                 hear();
             } else {
-                randomCall();
+                callOf(methods.get(random.nextInt(methods.size())).getName());
             }
         }
+        calls += pair.calls();
     }
 
     private long call(String name, int... args) throws ReflectiveOperationException {
-        Object[] boxed = Arrays.stream(args).boxed().toArray();
-        Class<?>[] types = new Class<?>[args.length];
-        Arrays.fill(types, int.class);
-        long want = ((Number) PlainModel.class.getMethod(name, types).invoke(model, boxed)).longValue();
-        long got = ((Number) JingleLaws.class.getMethod(name, types).invoke(real, boxed)).longValue();
-        log.add(name + Arrays.toString(args) + " " + want);
-        calls++;
-        if (got != want) {
-            log.forEach(System.out::println);
-            System.out.println("the class answered " + got + ", due is " + want);
-            System.exit(1);
-        }
-        return got;
-    }
-
-    private void tell(String text) throws ReflectiveOperationException {
-        for (int i = 0; i < text.length(); i++) {
-            call("feed", text.charAt(i));
-        }
-        call("camp");
-        call("fault");
+        return pair.call(name, args);
     }
 
     private String text() {
@@ -108,7 +84,7 @@ public final class ModelTest {
 
     /** Fills a ROW with what will be, so that something fits; then, perhaps, something changes. */
     private void hear() throws ReflectiveOperationException {
-        int rules = real.count(1);
+        int rules = pair.real.count(1);
         if (rules < 1) {
             return;
         }
@@ -120,7 +96,7 @@ public final class ModelTest {
         for (int k = 0; k < n; k++) {
             call("set", row, i + k, (int) call("ahead", rule, k + 1));
         }
-        int hand = random.nextInt(real.count(2));
+        int hand = random.nextInt(pair.real.count(2));
         switch (random.nextInt(4)) {
             case 0 -> call("give", rule, random.nextInt(10));
             case 1 -> call("soup", hand, 1 + random.nextInt(20));
@@ -138,21 +114,9 @@ public final class ModelTest {
         return way == 0 ? EDGES[random.nextInt(EDGES.length)] : way == 1 ? usual : random.nextInt(Math.max(1, usual));
     }
 
-    private void randomCall() throws ReflectiveOperationException {
-        Method[] all = JingleLaws.class.getDeclaredMethods();
-        List<String> names = new ArrayList<>();
-        for (Method method : all) {
-            if (java.lang.reflect.Modifier.isPublic(method.getModifiers())) {
-                names.add(method.getName());
-            }
-        }
-        names.sort(null);
-        callOf(names.get(random.nextInt(names.size())));
-    }
-
     private void callOf(String name) throws ReflectiveOperationException {
-        int rule = number(Math.max(1, real.count(1)));
-        int hand = number(Math.max(1, real.count(2)));
+        int rule = number(Math.max(1, pair.real.count(1)));
+        int hand = number(Math.max(1, pair.real.count(2)));
         int what = number(2);
         int row = number(8);
         switch (name) {
@@ -200,7 +164,7 @@ public final class ModelTest {
 
     /** The model tries all ways by whole nights, so great ones are asked for just some times. */
     private void rota(int n, int hand) throws ReflectiveOperationException {
-        double ways = Math.pow(real.count(1) + 1, real.count(2));
+        double ways = Math.pow(pair.real.count(1) + 1, pair.real.count(2));
         if (ways * n > 9000) {
             if (rotas >= DEAR_ROTAS) {
                 return;
