@@ -1,6 +1,7 @@
 /**
  * Each sentence of the document that names a boundary: too small, too large, empty, full, a wrap-around, a refused
- * call. Its words stand above its answers, which were worked out by hand.
+ * call. Its words stand above its answers: most were worked out by hand; some are those of other calls that must agree
+ * (HOURS that pass for those foretold, a twin for what is refused).
  */
 public final class EdgesTest {
     private EdgesTest() {
